@@ -811,7 +811,7 @@ public final class HereMiss {
 
         /** Lays a value on the stack at a place; answers the height then. */
         private int lay(int place, int value) {
-            if (!within(place, 0, stack.length - 1)) {
+            if (place < 0 || place >= stack.length) {
                 return 0;
             }
             stack[place] = value;
