@@ -218,10 +218,7 @@ public final class HereMiss {
     }
 
     public int judge(int shelf, int way) {
-        if (!isShelf(shelf) || !isWay(way)) {
-            return BAD;
-        }
-        int refusal = shelves[shelf].refusalAsRowOf(Shelf.SHORTS);
+        int refusal = registerRefusal(shelf, way, true);
         if (refusal != 0) {
             return refusal;
         }
@@ -230,10 +227,7 @@ public final class HereMiss {
     }
 
     public int who(int shelf, int way) {
-        if (!isShelf(shelf) || !isWay(way)) {
-            return BAD;
-        }
-        int refusal = shelves[shelf].refusalAsRowOf(Shelf.SHORTS);
+        int refusal = registerRefusal(shelf, way, true);
         if (refusal != 0) {
             return refusal;
         }
@@ -242,10 +236,7 @@ public final class HereMiss {
     }
 
     public int howBold(int shelf, int way, int pupil) {
-        if (!isShelf(shelf) || !isWay(way) || !pupils.isOne(pupil)) {
-            return BAD;
-        }
-        int refusal = shelves[shelf].refusalAsRowOf(Shelf.SHORTS);
+        int refusal = registerRefusal(shelf, way, pupils.isOne(pupil));
         if (refusal != 0) {
             return refusal;
         }
@@ -254,10 +245,7 @@ public final class HereMiss {
     }
 
     public int forWhom(int shelf, int way, int pupil, int what) {
-        if (!isShelf(shelf) || !isWay(way) || !pupils.isOne(pupil) || !within(what, 0, 1)) {
-            return BAD;
-        }
-        int refusal = shelves[shelf].refusalAsRowOf(Shelf.SHORTS);
+        int refusal = registerRefusal(shelf, way, pupils.isOne(pupil) && within(what, 0, 1));
         if (refusal != 0) {
             return refusal;
         }
@@ -441,6 +429,14 @@ public final class HereMiss {
         return within(shelf, 0, SHELVES - 1);
     }
 
+    /** What a register on a shelf is refused with, ahead of which all else must be as said; 0: nothing. */
+    private int registerRefusal(int shelf, int way, boolean asSaid) {
+        if (!isShelf(shelf) || !isWay(way) || !asSaid) {
+            return BAD;
+        }
+        return shelves[shelf].refusalAsRowOf(Shelf.SHORTS);
+    }
+
     private static boolean holds(int bits, int one) {
         return (bits >> one & 1) == 1;
     }
@@ -537,6 +533,7 @@ public final class HereMiss {
         static final int MOST_CODES = MOST + 1;
         static final int NEGATED = '~', IF = '?', LINE_END = ';';
         private static final int MOST_OPEN = 6, MOST_DIGITS = 4, END = -1;
+        private static final int NO_SIGN = -1, LOOSEST = 0, COMPARISON = 2, CLOSEST = 4;
 
         private final int[] letters = new int[MOST];
         final int[] codes = new int[MOST_CODES];
@@ -590,12 +587,12 @@ public final class HereMiss {
         }
 
         private boolean line() {
-            if (!either(0)) {
+            if (!part(LOOSEST, 0)) {
                 return false;
             }
             if (skip('?')) {
                 emit(-IF);
-                if (!either(0)) {
+                if (!part(LOOSEST, 0)) {
                     return false;
                 }
             }
@@ -603,78 +600,48 @@ public final class HereMiss {
             return true;
         }
 
-        // From here to operand(..): each is false where the text does not go on, and place is its fault.
-
-        private boolean either(int open) {
-            if (!both(open)) {
-                return false;
+        /** How closely a sign between two parts binds them; NO_SIGN: it is none. */
+        private static int bond(int sign) {
+            switch (sign) {
+                case '|':
+                    return LOOSEST;
+                case '&':
+                    return 1;
+                case '<':
+                case '=':
+                case '>':
+                    return COMPARISON;
+                case '+':
+                case '-':
+                    return 3;
+                case '*':
+                case '/':
+                case '%':
+                    return CLOSEST;
+                default:
+                    return NO_SIGN;
             }
-            while (place < fed && letter() == '|') {
-                place++;
-                if (!both(open)) {
-                    return false;
-                }
-                emit(-'|');
-            }
-            return true;
         }
 
-        private boolean both(int open) {
-            if (!comparison(open)) {
-                return false;
-            }
-            while (place < fed && letter() == '&') {
-                place++;
-                if (!comparison(open)) {
-                    return false;
-                }
-                emit(-'&');
-            }
-            return true;
-        }
+        // The two below are false where the text does not go on, and place is its fault then.
 
-        private boolean comparison(int open) {
-            if (!sum(open)) {
+        /** Parts of a closer bond, joined by signs of this one; a comparison joins two alone. */
+        private boolean part(int bond, int open) {
+            if (bond > CLOSEST) {
+                return operand(open);
+            }
+            if (!part(bond + 1, open)) {
                 return false;
             }
-            int sign = letter();
-            if (sign != '<' && sign != '=' && sign != '>') {
-                return true;
-            }
-            place++;
-            if (!sum(open)) {
-                return false;
-            }
-            emit(-sign);
-            return true;
-        }
-
-        private boolean sum(int open) {
-            if (!product(open)) {
-                return false;
-            }
-            while (place < fed && (letter() == '+' || letter() == '-')) {
+            boolean mayJoin = true;
+            while (mayJoin && place < fed && bond(letter()) == bond) {
                 int sign = letter();
                 place++;
-                if (!product(open)) {
+                if (!part(bond + 1, open)) {
                     return false;
                 }
                 emit(-sign);
-            }
-            return true;
-        }
-
-        private boolean product(int open) {
-            if (!operand(open)) {
-                return false;
-            }
-            while (place < fed && (letter() == '*' || letter() == '/' || letter() == '%')) {
-                int sign = letter();
-                place++;
-                if (!operand(open)) {
-                    return false;
-                }
-                emit(-sign);
+                mayJoin = bond != COMPARISON;
             }
             return true;
         }
@@ -695,7 +662,7 @@ public final class HereMiss {
             }
             place++;
             if (sign == '(') {
-                return either(open + 1) && skip(')');
+                return part(LOOSEST, open + 1) && skip(')');
             }
             if (!operand(open + 1)) {
                 return false;

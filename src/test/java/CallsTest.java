@@ -17,20 +17,6 @@ public final class CallsTest {
         Due.end();
     }
 
-    /** Pupils of 10, 20, 30 .. tenths, by numbers; names run the other way round. */
-    private static HereMiss room(int pupils) {
-        HereMiss x = new HereMiss();
-        for (int i = 0; i < pupils; i++) {
-            x.pupil(90 - i, 10 * (i + 1));
-        }
-        return x;
-    }
-
-    private static void helps(HereMiss x, int one, int bold, int friends) {
-        x.mend(one, 3, bold);
-        x.mend(one, 4, friends);
-    }
-
     private static void all(HereMiss x, String of, int tw, int looks, int... due) {
         String[] what = {"MARKED", "tenths", "FALSE", "MISSED", "answered for others"};
         for (int i = 0; i < due.length; i++) {
@@ -39,7 +25,7 @@ public final class CallsTest {
     }
 
     private static void called() {
-        HereMiss x = room(3);
+        HereMiss x = Due.room(3);
         all(x, "all there", 1, 0, 7, 60, 0, 0, 0);
         all(x, "a look takes 10 more", 1, 5, 7, 80, 0, 0, 0);
         all(x, "looks at who is none", 1, 0xf8, 7, 60, 0, 0, 0);
@@ -50,37 +36,37 @@ public final class CallsTest {
         x.mend(1, 5, 3);
         all(x, "FROM, too", 31, 0, 7, 60, 0, 0, 0);
         all(x, "ahead of FROM", 21, 0, 5, 70, 0, 0, 0);
-        helps(x, 2, 1, 2);
+        Due.helps(x, 2, 1, 2);
         all(x, "answered for", 21, 0, 7, 75, 2, 0, 4);
         all(x, "not if she looks: GAP and 10", 21, 2, 5, 80, 0, 0, 0);
         all(x, "a look at the other one", 21, 4, 7, 85, 2, 0, 4);
         x.mend(0, 8, 0);
-        helps(x, 2, 0, 2);
+        Due.helps(x, 2, 0, 2);
         all(x, "1 at least", 21, 0, 5, 41, 0, 0, 0);
-        helps(x, 2, 7, 5);
+        Due.helps(x, 2, 7, 5);
         all(x, "no friend", 21, 0, 5, 41, 0, 0, 0);
     }
 
     private static void calledInTime() {
-        HereMiss x = room(3);
+        HereMiss x = Due.room(3);
         x.mend(1, 7, 10);
         all(x, "LATE to the tenth, in time", 1, 0, 7, 60, 0, 0, 0);
         x.mend(1, 7, 11);
         all(x, "LATE by one tenth", 1, 0, 5, 70, 0, 2, 0);
-        helps(x, 0, 1, 6);
+        Due.helps(x, 0, 1, 6);
         all(x, "LATE, answered for: not MISSED", 1, 0, 7, 55, 2, 0, 1);
         x.mend(0, 7, 1);
         all(x, "who helps must be there itself", 1, 0, 6, 80, 0, 1, 0);
         x.mend(0, 7, 35);
         all(x, "nobody is there yet", 1, 0, 6, 80, 0, 1, 0);
-        helps(x, 1, 1, 1);
+        Due.helps(x, 1, 1, 1);
         x.mend(1, 7, 0);
         all(x, "a later name helps", 1, 0, 7, 75, 1, 0, 2);
         x.mend(2, 7, 999);
-        helps(x, 1, 1, 5);
-        helps(x, 0, 0, 4);
+        Due.helps(x, 1, 1, 5);
+        Due.helps(x, 0, 0, 4);
         all(x, "bold for one alone", 1, 0, 3, 75, 1, 4, 2);
-        helps(x, 0, 1, 4);
+        Due.helps(x, 0, 1, 4);
         all(x, "one that came by now helps", 1, 0, 7, 25 + 20 + 15, 5, 0, 3);
         x.mend(0, 7, 45);
         all(x, "it came at that tenth", 1, 0, 7, 60, 5, 0, 3);
@@ -89,12 +75,12 @@ public final class CallsTest {
     }
 
     private static void calledBold() {
-        HereMiss x = room(6);
+        HereMiss x = Due.room(6);
         for (int i = 2; i < 6; i++) {
             x.mend(i, 5, 5);
         }
-        helps(x, 0, 2, 0xff);
-        helps(x, 1, 1, 0xff);
+        Due.helps(x, 0, 2, 0xff);
+        Due.helps(x, 1, 1, 0xff);
         all(x, "two, then one more", 1, 0, 31, 10 + 20 + 15 + 15 + 25 + 30, 28, 0, 3);
         all(x, "by names the last come first", 0, 0, 59, 15 + 15 + 25 + 30 + 20 + 10, 56, 0, 3);
         all(x, "a look keeps one bold", 1, 4, 59, 10 + 20 + 40 + 15 + 15 + 25, 56, 0, 3);
@@ -102,16 +88,16 @@ public final class CallsTest {
         x.mend(3, 2, 0);
         x.mend(0, 2, 15);
         all(x, "by seats 3, 5, 0, then none", 2, 0, 47, 15 + 15 + 10 + 20 + 25 + 30, 44, 0, 3);
-        helps(x, 0, 2, 0xfb);
+        Due.helps(x, 0, 2, 0xfb);
         all(x, "the least number of those who may", 1, 0, 31, 10 + 20 + 25 + 15 + 15 + 30, 28, 0, 3);
     }
 
     private static void answers() {
-        HereMiss x = room(4);
+        HereMiss x = Due.room(4);
         x.mend(2, 7, 999);
         x.mend(3, 5, 5);
-        helps(x, 0, 0, 255);
-        helps(x, 1, 1, 12);
+        Due.helps(x, 0, 0, 255);
+        Due.helps(x, 1, 1, 12);
         Due.due("9: itself", x.answers(1, 0, 0), 0);
         Due.due("9: another one", x.answers(1, 0, 2), 1);
         Due.due("9: nobody", x.answers(1, 0, 3), -2);
@@ -124,7 +110,7 @@ public final class CallsTest {
     }
 
     private static void bestWay() {
-        HereMiss x = room(2);
+        HereMiss x = Due.room(2);
         Due.due("10: of like ones the least", x.bestWay(0, 0), 0);
         Due.due("10: none wrong", x.bestWay(0, 1), 0);
         Due.due("10: tenths", x.bestWay(0, 2), 30);
@@ -135,7 +121,7 @@ public final class CallsTest {
         Due.due("10: fewest MISSED", x.bestWay(0, 0), 1);
         Due.due("10: how many", x.bestWay(0, 1), 0);
         Due.due("10: by numbers", x.bestWay(0, 2), 30);
-        helps(x, 0, 1, 2);
+        Due.helps(x, 0, 1, 2);
         Due.due("10: FALSE counts, too", x.bestWay(0, 0), 1);
         x.mend(0, 0, 1);
         x.mend(1, 2, 3);
@@ -151,33 +137,33 @@ public final class CallsTest {
         Due.due("10: one FALSE each", x.bestWay(0, 1), 1);
         Due.due("10: of one FALSE each the fewest tenths", x.bestWay(0, 0), 2);
         Due.due("10: fewest tenths", x.bestWay(0, 2), 56);
-        helps(x, 0, 0, 2);
+        Due.helps(x, 0, 0, 2);
         Due.due("10: one MISSED each", x.bestWay(0, 1), 1);
         x.mend(1, 5, 4);
         Due.due("10: one who isn't HERE is not MISSED", x.bestWay(0, 1), 0);
     }
 
     private static void enough() {
-        HereMiss x = room(4);
+        HereMiss x = Due.room(4);
         Due.due("11: none", x.enough(1, 0), 0);
         Due.due("11: tenths of it", x.enough(1, 2), 100);
         for (int i = 1; i < 4; i++) {
             x.mend(i, 5, 1);
         }
-        helps(x, 0, 1, 14);
+        Due.helps(x, 0, 1, 14);
         // A look at 1 lets 0 answer for 2, and so on: all three it must be.
         Due.due("11: all three", x.enough(1, 0), 3);
         Due.due("11: these", x.enough(1, 1), 14);
         Due.due("11: tenths", x.enough(1, 2), 10 + 3 * 40);
-        helps(x, 0, 3, 4);
+        Due.helps(x, 0, 3, 4);
         Due.due("11: one", x.enough(1, 1), 4);
         Due.due("11: not in the lesson where all are there", x.enough(11, 1), 0);
         // Whichever of 1 and 2 she looks at, it takes so long that 3 comes by itself.
-        x = room(4);
+        x = Due.room(4);
         x.mend(1, 5, 1);
         x.mend(2, 5, 1);
         x.mend(3, 7, 75);
-        helps(x, 0, 1, 8);
+        Due.helps(x, 0, 1, 8);
         Due.due("11: by numbers 0 does it", x.called(1, 0, 2), 8);
         Due.due("11: one look is enough", x.enough(1, 0), 1);
         Due.due("11: the least of like ones", x.enough(1, 1), 1);
@@ -185,7 +171,7 @@ public final class CallsTest {
     }
 
     private static void next() {
-        HereMiss x = room(4);
+        HereMiss x = Due.room(4);
         Due.due("12: the least of like ones", x.next(1, 0, 0), 0);
         Due.due("12: none FALSE", x.next(1, 0, 1), 0);
         Due.due("12: of those not in LOOKS", x.next(1, 3, 0), 2);
@@ -194,18 +180,18 @@ public final class CallsTest {
         x.mend(1, 5, 1);
         x.mend(2, 5, 1);
         x.mend(3, 5, 1);
-        helps(x, 0, 2, 12);
+        Due.helps(x, 0, 2, 12);
         Due.due("12: at one whom somebody answers for", x.next(1, 0, 0), 2);
         Due.due("12: one is left", x.next(1, 0, 1), 1);
         Due.due("12: then the other", x.next(1, 4, 0), 3);
         Due.due("12: none is left", x.next(1, 4, 1), 0);
-        helps(x, 0, 1, 12);
+        Due.helps(x, 0, 1, 12);
         Due.due("12: no look helps", x.next(1, 0, 0), 0);
         Due.due("12: one stays", x.next(1, 0, 1), 1);
     }
 
     private static void heads() {
-        HereMiss x = room(3);
+        HereMiss x = Due.room(3);
         x.mend(1, 7, 7);
         x.mend(2, 5, 4);
         x.mend(2, 6, 5);
@@ -221,7 +207,7 @@ public final class CallsTest {
     }
 
     private static void absent() {
-        HereMiss x = room(4);
+        HereMiss x = Due.room(4);
         x.mend(3, 5, 5);
         x.mend(3, 7, 999);
         Due.due("14: all, whatever FROM and LATE say", x.absent(15, 14, 0), 1);
@@ -235,8 +221,8 @@ public final class CallsTest {
         Due.due("14: exactly these, in none", x.absent(7, 13, 2), 8);
         Due.due("14: more heads than pupils", x.absent(15, 19, 0), 0);
         Due.due("14: marks of none", x.absent(16, 11, 0), 0);
-        helps(x, 0, 1, 6);
-        helps(x, 3, 1, 4);
+        Due.helps(x, 0, 1, 6);
+        Due.helps(x, 3, 1, 4);
         // 15 of three: {0 1 3} and {0 2 3}, as 0 or 3 answers for the fourth.
         Due.due("14: two sets", x.absent(15, 13, 0), 2);
         Due.due("14: the least", x.absent(15, 13, 1), 11);
@@ -251,15 +237,15 @@ public final class CallsTest {
     }
 
     private static void ask() {
-        HereMiss x = room(4);
+        HereMiss x = Due.room(4);
         Due.due("15: of like ones the least", x.ask(15, 14), 0);
         Due.due("15: no set", x.ask(15, 13), -2);
-        helps(x, 0, 1, 6);
-        helps(x, 3, 1, 4);
+        Due.helps(x, 0, 1, 6);
+        Due.helps(x, 3, 1, 4);
         // {0 1 3} and {0 2 3}: of 1 it is there in one, of 0 in both.
         Due.due("15: half of them", x.ask(15, 13), 1);
-        helps(x, 0, 1, 14);
-        helps(x, 3, 0, 0);
+        Due.helps(x, 0, 1, 14);
+        Due.helps(x, 3, 0, 0);
         // {0 1 2}, {0 1 3}, {0 2 3}: 1 in two, not in one.
         Due.due("15: three sets", x.absent(15, 13, 0), 3);
         Due.due("15: the greater part is two of three", x.ask(15, 13), 1);
@@ -268,7 +254,7 @@ public final class CallsTest {
         // {0 1} and {0 2} mark 7: 3 is not there in either, which is the greater part, too.
         Due.due("15: of others", x.absent(7, 12, 0), 2);
         Due.due("15: half of these", x.ask(7, 12), 1);
-        helps(x, 3, 3, 7);
+        Due.helps(x, 3, 3, 7);
         Due.due("15: sets", x.absent(15, 11, 0), 1);
         Due.due("15: one set, all alike", x.ask(15, 11), 0);
         Due.due("15: by names", x.ask(15, 1), 0);
@@ -279,7 +265,7 @@ public final class CallsTest {
     }
 
     private static void inTime() {
-        HereMiss x = room(4);
+        HereMiss x = Due.room(4);
         Due.due("16: the first one", x.inTime(1, 0), 0);
         Due.due("16: the second", x.inTime(1, 1), 10);
         Due.due("16: the last", x.inTime(1, 3), 60);
@@ -293,9 +279,9 @@ public final class CallsTest {
         Due.due("16: HERE", x.inTime(21, 3), 70);
         Due.due("16: behind TILL", x.inTime(31, 3), -2);
         // If it came first, it would answer for 1 and so speed its own name up.
-        helps(x, 3, 1, 2);
+        Due.helps(x, 3, 1, 2);
         Due.due("16: as one that is not there by then", x.inTime(21, 3), 70);
-        helps(x, 0, 1, 8);
+        Due.helps(x, 0, 1, 8);
         Due.due("16: another one's answer does not count", x.inTime(21, 3), 70);
         Due.law(x, "600");
         Due.due("16: 999 at most", x.inTime(21, 3), 999);
@@ -308,17 +294,17 @@ public final class CallsTest {
     }
 
     private static void fire() {
-        HereMiss x = room(4);
+        HereMiss x = Due.room(4);
         x.mend(1, 5, 1);
         x.mend(2, 7, 999);
-        helps(x, 0, 1, 2);
+        Due.helps(x, 0, 1, 2);
         Due.due("17: MARKED, not HERE", x.fire(0, 0), 2);
         Due.due("17: HERE, not MARKED", x.fire(0, 1), 4);
         Due.due("17: another lesson", x.fire(1, 0), 0);
-        helps(x, 0, 7, 255);
+        Due.helps(x, 0, 7, 255);
         Due.due("17: MARKED falsely, but HERE", x.fire(0, 0), 2);
         Due.due("17: all MARKED", x.fire(0, 1), 0);
-        helps(x, 0, 0, 0);
+        Due.helps(x, 0, 0, 0);
         x.mend(2, 7, 40);
         Due.due("17: by numbers it comes in time", x.fire(0, 1), 0);
         x.mend(2, 7, 41);
@@ -326,7 +312,7 @@ public final class CallsTest {
     }
 
     private static void wrongInputs() {
-        HereMiss x = room(3);
+        HereMiss x = Due.room(3);
         int[] lessonsAndWays = {-1, 3, 9, 13, 99, 100, 102, -10, Integer.MIN_VALUE, Integer.MAX_VALUE};
         for (int tw : lessonsAndWays) {
             Due.due("8: tw " + tw, x.called(tw, 0, 0), -1);

@@ -14,25 +14,12 @@ public final class DaysTest {
         Due.end();
     }
 
-    private static HereMiss room(int pupils) {
-        HereMiss x = new HereMiss();
-        for (int i = 0; i < pupils; i++) {
-            x.pupil(90 - i, 10 * (i + 1));
-        }
-        return x;
-    }
-
-    private static void helps(HereMiss x, int one, int bold, int friends) {
-        x.mend(one, 3, bold);
-        x.mend(one, 4, friends);
-    }
-
     private static void day() {
-        HereMiss x = room(3);
+        HereMiss x = Due.room(3);
         x.mend(2, 5, 2);
         x.mend(2, 6, 4);
         x.mend(1, 6, 8);
-        helps(x, 0, 1, 6);
+        Due.helps(x, 0, 1, 6);
         // Lessons 0 and 1: 2 is answered for; 2 to 4: all are there; 5 to 8: 2; 9: 1, but for 2 nobody.
         Due.due("18: no lesson", x.day(0, 1, 0), 0);
         Due.due("18: one lesson", x.day(1, 1, 0), 45);
@@ -75,10 +62,10 @@ public final class DaysTest {
 
     /** Three pupils; 0 answers for 1 and 2, of whom 1 comes from lesson 3 on and 2 till lesson 5. */
     private static HereMiss registerRoom() {
-        HereMiss x = room(3);
+        HereMiss x = Due.room(3);
         x.mend(1, 5, 3);
         x.mend(2, 6, 5);
-        helps(x, 0, 1, 6);
+        Due.helps(x, 0, 1, 6);
         return x;
     }
 
@@ -88,7 +75,7 @@ public final class DaysTest {
         Due.due("20: an empty register", x.judge(1, 1), -2);
         Due.row(x, 1, 1, 0, 7, 3, 7, 9, 7);
         Due.due("20: all so", x.judge(1, 1), -2);
-        helps(x, 0, 0, 6);
+        Due.helps(x, 0, 0, 6);
         Due.due("20: the first two", x.judge(1, 1), 0);
         Due.row(x, 1, 1, 4, 7, 3, 7, 9, 7, 0, 7);
         Due.due("20: the third two", x.judge(1, 1), 2);
@@ -119,7 +106,7 @@ public final class DaysTest {
         Due.due("21: if 0 were not", x.who(5, 1), 1);
         Due.row(x, 5, 1, 0, 7);
         Due.due("21: any but 0", x.who(5, 1), 6);
-        helps(x, 2, 1, 2);
+        Due.helps(x, 2, 1, 2);
         Due.due("21: each alone", x.who(5, 1), 7);
         Due.row(x, 5, 1, 0, 5);
         Due.due("21: none alone", x.who(5, 1), 0);
@@ -132,11 +119,11 @@ public final class DaysTest {
     }
 
     private static void howBold() {
-        HereMiss x = room(4);
+        HereMiss x = Due.room(4);
         for (int i = 1; i < 4; i++) {
             x.mend(i, 5, 1);
         }
-        helps(x, 0, 7, 14);
+        Due.helps(x, 0, 7, 14);
         Due.row(x, 0, 1, 0, 15);
         Due.due("22: three", x.howBold(0, 1, 0), 3);
         Due.row(x, 0, 1, 0, 7);
@@ -164,7 +151,7 @@ public final class DaysTest {
     }
 
     private static void forWhom() {
-        HereMiss x = room(3);
+        HereMiss x = Due.room(3);
         x.mend(1, 5, 1);
         x.mend(2, 5, 1);
         x.mend(0, 3, 1);
@@ -191,33 +178,33 @@ public final class DaysTest {
     }
 
     private static void partners() {
-        HereMiss x = room(4);
+        HereMiss x = Due.room(4);
         Due.due("24: nobody", x.partners(1, 0), -2);
         Due.due("24: how often nobody", x.partners(1, 1), 0);
         x.mend(1, 5, 5);
         x.mend(3, 6, 4);
-        helps(x, 2, 1, 10);
+        Due.helps(x, 2, 1, 10);
         Due.due("24: five times each, the first", x.partners(1, 0), 12);
         Due.due("24: five times", x.partners(1, 1), 5);
         x.mend(3, 6, 3);
         Due.due("24: five times each still, 2 is bold for one alone", x.partners(1, 1), 5);
-        helps(x, 2, 2, 10);
+        Due.helps(x, 2, 2, 10);
         Due.due("24: six times", x.partners(1, 0), 23);
         Due.due("24: how often", x.partners(1, 1), 6);
         // Either for the other one: 1 for 2 in lessons 5 to 9, when 2 is away.
         x.mend(2, 6, 4);
-        helps(x, 1, 1, 4);
+        Due.helps(x, 1, 1, 4);
         Due.due("24: either for the other one", x.partners(1, 0), 12);
         Due.due("24: ten times", x.partners(1, 1), 10);
         x.mend(0, 6, 0);
-        helps(x, 3, 7, 255);
+        Due.helps(x, 3, 7, 255);
         Due.due("24: by names 3 comes first", x.partners(0, 0), 12);
     }
 
     private static void drawn() {
-        HereMiss x = room(3);
-        helps(x, 0, 1, 6);
-        helps(x, 1, 7, 5);
+        HereMiss x = Due.room(3);
+        Due.helps(x, 0, 1, 6);
+        Due.helps(x, 1, 7, 5);
         x.mend(2, 5, 9);
         x.mend(2, 7, 999);
         for (int ill = 0; ill <= 12; ill++) {
@@ -249,7 +236,7 @@ public final class DaysTest {
     }
 
     private static void wrongInputs() {
-        HereMiss x = room(2);
+        HereMiss x = Due.room(2);
         x.row(0, 1, 0);
         int[] ways = {-1, 3, Integer.MIN_VALUE, Integer.MAX_VALUE};
         for (int way : ways) {
@@ -297,7 +284,7 @@ public final class DaysTest {
     }
 
     private static void wrongShelves() {
-        HereMiss x = room(1);
+        HereMiss x = Due.room(1);
         registerCalls(x, "shelf -1", -1, 0, 0, -1);
         registerCalls(x, "shelf 6", 6, 0, 0, -1);
         registerCalls(x, "nothing is there", 0, 0, 0, -11);

@@ -13,14 +13,6 @@ public final class DeedsTest {
         Due.end();
     }
 
-    private static HereMiss room(int pupils) {
-        HereMiss x = new HereMiss();
-        for (int i = 0; i < pupils; i++) {
-            x.pupil(90 - i, 10 * (i + 1));
-        }
-        return x;
-    }
-
     private static void led(HereMiss x, String of, int... due) {
         String[] what = {"calls", "tenths", "MARKS", "CAUGHT", "punished"};
         for (int i = 0; i < due.length; i++) {
@@ -35,7 +27,7 @@ public final class DeedsTest {
     }
 
     private static void call() {
-        HereMiss x = room(3);
+        HereMiss x = Due.room(3);
         int[] tws = {-1, 3, 100, Integer.MIN_VALUE, Integer.MAX_VALUE};
         for (int tw : tws) {
             Due.due("26: tw " + tw, x.call(tw, 0), -1);
@@ -61,7 +53,7 @@ public final class DeedsTest {
     }
 
     private static void caught() {
-        HereMiss x = room(4);
+        HereMiss x = Due.room(4);
         x.mend(1, 5, 1);
         x.mend(2, 5, 1);
         x.mend(3, 7, 999);
@@ -85,7 +77,7 @@ public final class DeedsTest {
     }
 
     private static void punish() {
-        HereMiss x = room(2);
+        HereMiss x = Due.room(2);
         Due.due("27: -1", x.punish(-1), -1);
         Due.due("27: 2", x.punish(2), -1);
         led(x, "28: bad ones do not count", 0, 0, 0, 0, 0);
@@ -99,7 +91,7 @@ public final class DeedsTest {
     }
 
     private static void image() {
-        HereMiss x = room(2);
+        HereMiss x = Due.room(2);
         Due.due("30: none", x.back(), -5);
         x.mend(0, 3, 3);
         x.call(1, 0);
@@ -129,7 +121,7 @@ public final class DeedsTest {
     }
 
     private static void laterPupils() {
-        HereMiss x = room(1);
+        HereMiss x = Due.room(1);
         x.call(1, 0);
         x.image();
         x.pupil(1, 20);
@@ -149,7 +141,7 @@ public final class DeedsTest {
     }
 
     private static void undo() {
-        HereMiss x = room(2);
+        HereMiss x = Due.room(2);
         Due.due("31: none", x.undo(), -5);
         x.mend(0, 0, 1);
         x.mend(0, 1, 2);
@@ -172,7 +164,7 @@ public final class DeedsTest {
     }
 
     private static void redo() {
-        HereMiss x = room(1);
+        HereMiss x = Due.room(1);
         Due.due("32: none", x.redo(), -5);
         x.mend(0, 1, 11);
         x.mend(0, 1, 12);
@@ -200,7 +192,7 @@ public final class DeedsTest {
     }
 
     private static void fortyChanges() {
-        HereMiss x = room(1);
+        HereMiss x = Due.room(1);
         for (int i = 1; i <= 43; i++) {
             x.mend(0, 7, i);
             Due.due("31: kept", x.count(2), Math.min(i, 40));
@@ -224,7 +216,7 @@ public final class DeedsTest {
     }
 
     private static void changesAndDeeds() {
-        HereMiss x = room(1);
+        HereMiss x = Due.room(1);
         x.mend(0, 3, 2);
         x.mend(0, 3, 5);
         x.punish(0);

@@ -42,4 +42,18 @@ final class Due {
             x.put(shelf, i, elements[i]);
         }
     }
+
+    /** Pupils of 10, 20, 30 .. tenths, by numbers; names run the other way round. */
+    static HereMiss room(int pupils) {
+        HereMiss x = new HereMiss();
+        for (int i = 0; i < pupils; i++) {
+            x.pupil(90 - i, 10 * (i + 1));
+        }
+        return x;
+    }
+
+    static void helps(HereMiss x, int one, int bold, int friends) {
+        x.mend(one, 3, bold);
+        x.mend(one, 4, friends);
+    }
 }
