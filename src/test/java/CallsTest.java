@@ -8,6 +8,7 @@ public final class CallsTest {
         bestWay();
         enough();
         next();
+        lessonsAndWays();
         heads();
         absent();
         ask();
@@ -188,6 +189,52 @@ public final class CallsTest {
         Due.helps(x, 0, 1, 12);
         Due.due("12: no look helps", x.next(1, 0, 0), 0);
         Due.due("12: one stays", x.next(1, 0, 1), 1);
+    }
+
+    /** 0 comes 55 tenths late and answers for 2 and 3, who come in lessons 3 and 7 alone, in the order of the way. */
+    private static void lessonsAndWays() {
+        HereMiss x = Due.room(4);
+        x.mend(0, 7, 55);
+        Due.helps(x, 0, 1, 12);
+        int[][] lessons = {{2, 3, 7}, {3, 3, 3}};
+        for (int[] one : lessons) {
+            x.mend(one[0], 5, one[1]);
+            x.mend(one[0], 6, one[2]);
+        }
+        // By numbers: 0 is late (30), 1 answers (20), 2 comes at 50, 3 at 80 or so; by names it runs the other way.
+        Due.due("11: lesson 0 by numbers", x.enough(1, 1), 8);
+        Due.due("11: its tenths", x.enough(1, 2), 30 + 20 + 30 + 40);
+        Due.due("11: lesson 3, all are there", x.enough(31, 0), 0);
+        Due.due("11: its tenths", x.enough(31, 2), 30 + 20 + 30 + 40);
+        Due.due("11: lesson 7", x.enough(71, 1), 8);
+        Due.due("11: lesson 0 by names", x.enough(0, 2), 30 + 30 + 20 + 10);
+        Due.due("11: lesson 3 by names", x.enough(30, 2), 40 + 30 + 20 + 10);
+        Due.due("12: lesson 0 by numbers", x.next(1, 0, 0), 3);
+        Due.due("12: a look at 1 takes so long that 0 comes ahead of 2: one stays", x.next(1, 2, 1), 1);
+        Due.due("12: lesson 3 by numbers", x.next(31, 0, 0), 0);
+        Due.due("12: lesson 7 by numbers", x.next(71, 0, 0), 3);
+        Due.due("12: by names none is FALSE", x.next(0, 0, 0), 0);
+        Due.due("16: lesson 7 by names", x.inTime(70, 2), 30);
+        Due.due("16: lesson 3 by names", x.inTime(30, 2), 40);
+        Due.due("16: lesson 7 by numbers", x.inTime(71, 2), 50);
+        Due.due("16: by seats as by numbers", x.inTime(32, 3), 80);
+        x.called(91, 0, 0);
+        // As if each were there from the beginning or not at all, whatever LATE was in the call ahead.
+        Due.due("14: 0 is there from the beginning", x.absent(7, 12, 1), 3);
+        Due.due("14: by names it answers for 3 first", x.absent(7, 2, 0), 0);
+        Due.due("14: by names", x.absent(11, 2, 1), 3);
+        x.mend(2, 2, 0);
+        Due.due("14: by seats 2 comes first", x.absent(7, 22, 1), 3);
+        Due.due("14: by seats, one head, for 2", x.absent(5, 21, 1), 1);
+        Due.due("14: by numbers, one head, for 2", x.absent(5, 11, 1), 1);
+        Due.due("14: by names, one head, for 3", x.absent(9, 1, 1), 1);
+        Due.due("15: by names, one head, for 3", x.ask(9, 1), 0);
+        Due.due("15: by numbers, none", x.ask(9, 11), -2);
+        Due.due("15: by seats, none", x.ask(9, 21), -2);
+        x.mend(3, 2, 0);
+        x.mend(2, 2, 1);
+        Due.due("14: by seats 3 comes first", x.absent(9, 21, 1), 1);
+        Due.due("15: by seats 3 comes first", x.ask(9, 21), 0);
     }
 
     private static void heads() {
