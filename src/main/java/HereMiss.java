@@ -45,7 +45,7 @@ public final class HereMiss {
     }
 
     public int pupils(int shelf, int i, int n) {
-        if (!isShelf(shelf) || i < 0 || !within(n, 1, MOST_PUPILS)) {
+        if (!isShelf(shelf) || !within(n, 1, MOST_PUPILS)) {
             return BAD;
         }
         Shelf from = shelves[shelf];
@@ -55,6 +55,7 @@ public final class HereMiss {
         if (!from.isRowOf(Shelf.BYTES)) {
             return OTHER_KIND;
         }
+        // A place that is not there is no fault of the call: the row ends at it, below 0, too.
         int came = 0;
         int place = i;
         while (came < n && from.has(place, 3) && comesFrom(from, place)) {

@@ -69,7 +69,7 @@ final class Model {
     }
 
     int pupils(int shelf, int i, int n) {
-        if (!in(shelf, 0, 5) || i < 0 || !in(n, 1, 8)) {
+        if (!in(shelf, 0, 5) || !in(n, 1, 8)) {
             return BAD;
         }
         Object held = shelves[shelf];

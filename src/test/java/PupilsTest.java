@@ -4,6 +4,7 @@ public final class PupilsTest {
         newObject();
         pupil();
         pupils();
+        pupilsFromBelow();
         pupilsThatEnd();
         mend();
         of();
@@ -62,7 +63,6 @@ public final class PupilsTest {
         Due.due("3: shelf below", x.pupils(-1, 0, 1), -1);
         Due.due("3: n 0", x.pupils(0, 0, 0), -1);
         Due.due("3: n 9", x.pupils(0, 0, 9), -1);
-        Due.due("3: place below", x.pupils(0, -1, 1), -1);
         Due.due("3: place behind", x.pupils(0, 7, 1), 0);
         Due.due("3: place far behind", x.pupils(0, Integer.MAX_VALUE, 8), 0);
         Due.due("3: two of two", x.pupils(0, 1, 2), 2);
@@ -84,6 +84,26 @@ public final class PupilsTest {
         Due.due("3: bad goes before -12", x.pupils(1, 0, 0), -1);
         x.row(1, 0, 0);
         Due.due("3: empty row", x.pupils(1, 0, 1), 0);
+    }
+
+    private static void pupilsFromBelow() {
+        int[] below = {-1, -2, -3, -4, Integer.MIN_VALUE, Integer.MIN_VALUE + 1};
+        for (int place : below) {
+            HereMiss x = new HereMiss();
+            Due.due("3: place below, missing row", x.pupils(0, place, 1), 0);
+            Due.due("3: place below, missing row, n 0", x.pupils(0, place, 0), -1);
+            Due.due("3: place below, missing row, n 9", x.pupils(0, place, 9), -1);
+            Due.due("3: place below, no shelf", x.pupils(6, place, 1), -1);
+            Due.row(x, 0, 0, 1, 2, 3, 4, 5, 6, 7, 8, 9);
+            Due.due("3: place below, a row", x.pupils(0, place, 1), 0);
+            Due.due("3: place below, a row, three", x.pupils(0, place, 3), 0);
+            Due.due("3: place below, a row, n 0", x.pupils(0, place, 0), -1);
+            x.row(1, 1, 6);
+            Due.due("3: place below, shorts", x.pupils(1, place, 1), -12);
+            x.keep(1, x.body(0));
+            Due.due("3: place below, a voice", x.pupils(1, place, 1), -12);
+            Due.due("3: place below, nobody came", x.count(0), 0);
+        }
     }
 
     private static void pupilsThatEnd() {
