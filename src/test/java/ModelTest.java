@@ -34,6 +34,9 @@ public final class ModelTest {
 
     private void same(String call, long got, long want) {
         left--;
+        if (left < 0) {
+            return; // what an object answers behind its last call is free
+        }
         told.append(call).append(" = ").append(got).append('\n');
         Due.due(call, got, want);
     }
