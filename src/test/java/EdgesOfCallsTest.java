@@ -20,6 +20,9 @@ public final class EdgesOfCallsTest {
         partners();
         lessonAndWay();
         wayAndHeads();
+        answersByWay();
+        nobodyHasATime();
+        emptyRoom();
         Due.end();
     }
 
@@ -522,5 +525,66 @@ public final class EdgesOfCallsTest {
             Due.due("15: first of all, wm " + wm, x.ask(without, wm), m == 1 ? without % 2 == 1 ? 0 : 1 : -2);
             Due.due("19: the first, wm " + wm, x.order(way, 0), first[way]);
         }
+    }
+
+    /** 0 answers for one of the other three, which come in LESSON 0 alone: for the first by the WAY. */
+    private static void answersByWay() {
+        for (int tw = 0; tw < 100; tw++) {
+            HereMiss x = Due.room(4);
+            for (int i = 1; i < 4; i++) {
+                x.mend(i, 6, 0);
+            }
+            x.mend(2, 2, 1);
+            Due.helps(x, 0, 1, 255);
+            int way = tw % 10;
+            int first = way == 0 ? 3 : way == 1 ? 1 : 2;
+            for (int i = 0; i < 4; i++) {
+                int due = tw < 10 || i == 0 ? i : i == first ? 0 : -2;
+                Due.due("9: tw " + tw + ", pupil " + i, x.answers(tw, 0, i), way > 2 ? -1 : due);
+            }
+            Due.due("9: tw " + tw + ", not if she LOOKS", x.answers(tw, 15, first), way > 2 ? -1 : tw < 10 ? first : -2);
+        }
+    }
+
+    /** What a name takes for nobody, wherever it comes. */
+    private static void nobodyHasATime() {
+        HereMiss x = eight();
+        int all = 360;
+        for (int one = 0; one < 8; one++) {
+            x.mend(one, 5, 9);
+            int without = all - 10 * (one + 1) + 30;
+            for (int way = 0; way < 3; way++) {
+                Due.due("8: nobody for " + one + " by WAY " + way, x.called(way, 0, 1), without);
+                Due.due("8: nobody for " + one + ", and a look at it", x.called(way, 1 << one, 1), without + 10);
+                Due.due("8: nobody for " + one + ", and looks at the others", x.called(way, 255 - (1 << one), 1), without + 70);
+            }
+            x.mend(one, 5, 0);
+        }
+        for (int i = 0; i < 8; i++) {
+            x.mend(i, 5, 1);
+            Due.due("8: nobody for the first " + (i + 1), x.called(0, 0, 1), all - 5 * (i + 1) * (i + 2) + 30 * (i + 1));
+        }
+    }
+
+    private static void emptyRoom() {
+        HereMiss x = new HereMiss();
+        for (int way = 0; way < 3; way++) {
+            Due.due("14: the set of none", x.absent(0, way * 10, 0), 1);
+            Due.due("14: the least is none", x.absent(0, way * 10, 1), 0);
+            Due.due("14: in none is none", x.absent(0, way * 10, 2), 0);
+            Due.due("14: one head", x.absent(0, way * 10 + 1, 0), 0);
+            Due.due("14: one head, the least", x.absent(0, way * 10 + 1, 1), -2);
+            Due.due("15: there is none to look at", x.ask(0, way * 10), -2);
+            Due.due("12: there is none to look at", x.next(way, 0, 0), -2);
+            Due.due("12: how many are FALSE by no look", x.next(way, 0, 1), -2);
+            Due.due("11: no looks", x.enough(way, 0), 0);
+            Due.due("11: at none", x.enough(way, 1), 0);
+            Due.due("9: pupil 0 of none", x.answers(way, 0, 0), -1);
+            Due.due("16: pupil 0 of none", x.inTime(way, 0), -1);
+        }
+        Due.due("10: the least WAY", x.bestWay(9, 0), 0);
+        Due.due("13: no heads", x.heads(9, 9999), 0);
+        Due.due("17: nobody MARKED", x.fire(9, 0), 0);
+        Due.due("17: nobody HERE", x.fire(9, 1), 0);
     }
 }

@@ -341,6 +341,10 @@ public final class EdgesOfDeedsTest {
         Due.due("34: FRIEND marks thrice", x.act(3, 2, MOST), (MOST ^ 3) * 3);
         Due.due("34: TWIN marks less", x.act(4, 2, LEAST), (LEAST ^ 4) - 9);
         Due.due("34: PARK tells", x.act(5, 3, 0), -12 - (1 ^ 5) * 3 ^ 5);
+        for (int i = 8; i < 24; i++) {
+            int n = x.body(5);
+            Due.due("34: PARK tells, by its number", x.act(n, 3, i), -(i + 1 + n) * 2 - (1 ^ n) * 3 ^ 5);
+        }
         Due.due("34: MISS hears", x.act(7, 1, MOST), (LEAST + 6 + 3) * 2 + (2 ^ 7) - 12);
         Due.due("34: MISS tells", x.act(7, 3, 0), 20 + 5 - 12 - ((1 ^ 7) - 12) - 1);
     }

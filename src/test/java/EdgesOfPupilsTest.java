@@ -17,6 +17,7 @@ public final class EdgesOfPupilsTest {
         lawLines();
         lawWraps();
         lawHeld();
+        lawTables();
         Due.end();
     }
 
@@ -216,6 +217,9 @@ public final class EdgesOfPupilsTest {
         Due.due("7: the 120th on ends too early", Due.law(x, many("1*", 60)), -220);
         Due.due("7: the law stays", x.called(1, 0, 1), 999);
         x = Due.room(1);
+        Due.due("7: 120 bytes of thirty LINES", Due.law(x, many("0?9;", 29) + "!0+7"), 1);
+        Due.due("7: the last of them counts", x.called(1, 0, 1), 8);
+        x = Due.room(1);
         Due.due("7: one that is cut off", Due.law(x, many("1*", 60) + "1"), -220);
         Due.due("7: without a text still", x.called(1, 0, 1), 10);
         Due.due("7: one whose end is cut off", Due.law(x, many("1*", 59) + "22*5"), 1);
@@ -355,5 +359,27 @@ public final class EdgesOfPupilsTest {
         Due.due("7: nobody with a GAP of 1", x.called(1, 0, 1), 1 + 99);
         x.mend(0, 8, 99);
         Due.due("7: nobody with a GAP of 99", x.called(1, 0, 1), 99 + 99);
+    }
+
+    /** Each sign between numbers below, at and above 0 and 1. */
+    private static void lawTables() {
+        int[] numbers = {-7, -1, 0, 1, 2, 7};
+        for (int a : numbers) {
+            HereMiss y = Due.room(1);
+            Due.law(y, "!" + a + "+5");
+            Due.due("7: !" + a, y.called(1, 0, 1), a == 0 ? 6 : 5);
+            Due.law(y, a + "?8;9");
+            Due.due("7: " + a + " ahead of ?", y.called(1, 0, 1), a != 0 ? 8 : 9);
+            for (int b : numbers) {
+                HereMiss x = Due.room(1);
+                int[] due = {a != 0 || b != 0 ? 1 : 0, a != 0 && b != 0 ? 1 : 0, a < b ? 1 : 0, a == b ? 1 : 0, a > b ? 1 : 0,
+                    a + b, a - b, a * b, b == 0 ? 0 : a / b, b == 0 ? 0 : a % b};
+                for (int i = 0; i < due.length; i++) {
+                    String text = a + "" + "|&<=>+-*/%".charAt(i) + b;
+                    Due.law(x, "(" + text + ")+80");
+                    Due.due("7: " + text, x.called(1, 0, 1), due[i] + 80);
+                }
+            }
+        }
     }
 }

@@ -68,7 +68,8 @@ public final class RefusedTest {
     /** Three pupils; something of everything, and room for more. */
     private static List<String> usual() {
         List<String> calls = new ArrayList<>(List.of("pupil 40 15", "pupil 10 22", "pupil 90 8", "mend 0 3 2", "mend 0 4 6",
-            "mend 1 7 60", "mend 2 5 3", "mend 1 2 4", "mend 1 3 1", "mend 0 8 33", "mend 2 3 5", "mend 1 0 11", "undo", "undo"));
+            "mend 1 7 60", "mend 2 5 3", "mend 1 2 4", "mend 1 3 1", "mend 0 8 33", "mend 2 3 5", "mend 1 0 11", "undo",
+            "undo"));
         feed(calls, "s+k*3+l");
         calls.add("law");
         feed(calls, "g+");
@@ -88,8 +89,9 @@ public final class RefusedTest {
             calls.add("pupil " + (i * 37 % 50) + " " + (i + 5));
         }
         for (int i = 0; i < 8; i++) {
-            calls.addAll(List.of("mend " + i + " 3 " + (i + 1) % 8, "mend " + i + " 4 " + (255 - i), "mend " + i + " 7 " + i * 9,
-                "mend " + i + " 2 " + (15 - i), "mend " + i + " 1 " + (i + 7)));
+            String one = "mend " + i;
+            calls.addAll(List.of(one + " 3 " + (i + 1) % 8, one + " 4 " + (255 - i), one + " 7 " + i * 9,
+                one + " 2 " + (15 - i), one + " 1 " + (i + 7)));
         }
         calls.addAll(List.of("mend 0 9 7", "mend 7 5 1", "mend 6 6 8"));
         feed(calls, "s+" + "1+".repeat(56) + "k*10+l");
