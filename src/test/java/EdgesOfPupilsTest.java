@@ -219,6 +219,8 @@ public final class EdgesOfPupilsTest {
         x = Due.room(1);
         Due.due("7: 120 bytes of thirty LINES", Due.law(x, many("0?9;", 29) + "!0+7"), 1);
         Due.due("7: the last of them counts", x.called(1, 0, 1), 8);
+        Due.due("7: 120 bytes, of which no LINE counts", Due.law(x, many("0?9;", 29) + "!1?7"), 1);
+        Due.due("7: none: 0, held at 1", x.called(1, 0, 1), 1);
         x = Due.room(1);
         Due.due("7: one that is cut off", Due.law(x, many("1*", 60) + "1"), -220);
         Due.due("7: without a text still", x.called(1, 0, 1), 10);
